@@ -18,6 +18,7 @@ public final class ReactingTest {
         enabledIsASet();
         roomOnChannels();
         roomAfterTaking();
+        fullChannelsThatNothingIsSentTo();
         roomForMessages();
         taken();
         notSealed();
@@ -417,6 +418,27 @@ public final class ReactingTest {
         Due.due("17 the fifth", x.value(6), 100);
         Due.due("17 the sixth", x.value(7), 201);
         Due.due("14 the other has no room", x.next(), 0);
+    }
+
+    private static void fullChannelsThatNothingIsSentTo() {
+        JoinVessel x = Vessels.withChannels();
+        x.channel(false);
+        x.reaction();
+        x.part(0, 4, 0, 0);
+        x.emit(0, 1, 0, 0, 0);
+        x.reaction();
+        x.part(1, 2, 0, 0);
+        x.reply(1, 0, 0, 0, 0);
+        x.seal();
+        x.put(4, 1);
+        for (int i = 0; i < 6; i++) {
+            x.put(0, i);
+            x.call(2, i);
+            x.call(3, i);
+        }
+        Due.due("13 full channels do not matter", x.enabled(), 3);
+        Due.due("12 both fire", x.react(2), 2);
+        Due.due("16 channel 0 is full still", x.pendingAt(0, 5) != -1, true);
     }
 
     private static void roomForMessages() {

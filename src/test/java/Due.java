@@ -2,15 +2,20 @@
 final class Due {
     private static int wrong = 0;
     private static int asked = 0;
+    private static String sentence = "";
 
     private Due() {
+    }
+
+    /** The words of the document that the answers asked for from here on belong to. */
+    static void sentence(String words) {
+        sentence = "\"" + words + "\": ";
     }
 
     static void due(String what, long got, long want) {
         asked++;
         if (got != want) {
-            wrong++;
-            System.out.println(what + ": answered " + got + ", due is " + want);
+            tell(what, Long.toString(got), Long.toString(want));
         }
     }
 
@@ -21,9 +26,13 @@ final class Due {
     static void due(String what, String got, String want) {
         asked++;
         if (!got.equals(want)) {
-            wrong++;
-            System.out.println(what + ": answered " + got + ", due is " + want);
+            tell(what, got, want);
         }
+    }
+
+    private static void tell(String what, String got, String want) {
+        wrong++;
+        System.out.println(sentence + what + ": answered " + got + ", due is " + want);
     }
 
     static void end() {

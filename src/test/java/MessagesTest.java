@@ -1,85 +1,13 @@
-/** Promises 9 to 11 and 16 to 20: messages, how they are made and withdrawn, and what is seen of them. */
+/** Promises 9 to 11 and 16 to 20, in ordinary use: messages made, withdrawn and taken, and what is seen of them. */
 public final class MessagesTest {
-    private static final int[] NO_MESSAGES = {-1, 300, Integer.MIN_VALUE, Integer.MAX_VALUE};
-
     public static void main(String[] args) {
-        notSealed();
-        wrongChannels();
-        sixPending("9", true);
-        sixPending("10", false);
-        threeHundred();
         withdrawing();
         withdrawnIsNotTaken();
         pendingInOrder();
-        valuesStay();
         states();
         consumers();
         answers();
-        noSuchMessage();
         Due.end();
-    }
-
-    private static void notSealed() {
-        JoinVessel x = Vessels.withParts(1);
-        Due.due("9 not sealed", x.put(0, 1), -1);
-        Due.due("10 not sealed", x.call(2, 1), -1);
-        x.seal();
-        Due.due("9 sealed", x.put(0, 1), 0);
-        Due.due("10 sealed", x.call(2, 1), 1);
-    }
-
-    private static void wrongChannels() {
-        JoinVessel x = Vessels.sealed();
-        String before = Vessels.seen(x);
-        for (int bad : new int[] {-1, 4, 8, Integer.MIN_VALUE, Integer.MAX_VALUE}) {
-            Due.due("9 no channel " + bad, x.put(bad, 1), -1);
-            Due.due("10 no channel " + bad, x.call(bad, 1), -1);
-        }
-        Due.due("9 an ANSWERED channel", x.put(2, 1), -1);
-        Due.due("10 a PLAIN channel", x.call(0, 1), -1);
-        Due.due("9, 10 refused", Vessels.seen(x), before);
-        Due.due("9 then", x.put(0, 1), 0);
-    }
-
-    private static int make(JoinVessel x, boolean plain, int channel, int value) {
-        return plain ? x.put(channel, value) : x.call(channel, value);
-    }
-
-    private static void sixPending(String promise, boolean plain) {
-        JoinVessel x = Vessels.sealed();
-        int channel = plain ? 0 : 2;
-        for (int m = 0; m < 6; m++) {
-            Due.due(promise + " number " + m, make(x, plain, channel, 10 + m), m);
-        }
-        String before = Vessels.seen(x);
-        Due.due(promise + " a seventh", make(x, plain, channel, 99), -1);
-        Due.due(promise + " refused", Vessels.seen(x), before);
-        Due.due(promise + " another channel", make(x, plain, channel + 1, 50), 6);
-        x.react(1);
-        Due.due(promise + " one was taken", make(x, plain, channel, 51), 7);
-        Due.due(promise + " six again", make(x, plain, channel, 52), -1);
-    }
-
-    private static void threeHundred() {
-        JoinVessel x = Vessels.sealed();
-        Vessels.makeMessages(x, 299);
-        Due.due("9 the last one", x.put(0, 5), 299);
-        Due.due("9 beyond 300", x.put(0, 5), -1);
-        Due.due("9 beyond 300 on another channel", x.put(1, 5), -1);
-        Due.due("10 beyond 300", x.call(2, 5), -1);
-        Due.due("9 none was made", x.state(300), 0);
-        Due.due("9 the last one is there", x.value(299), 5);
-        JoinVessel y = Vessels.sealed();
-        Vessels.makeMessages(y, 299);
-        Due.due("10 the last one", y.call(2, 6), 299);
-        Due.due("10 beyond 300 too", y.call(2, 6), -1);
-        Due.due("9 beyond 300 too", y.put(0, 6), -1);
-        Due.due("12 the last one is taken", y.react(5), 1);
-        Due.due("21 as firing 299", y.fired(299), 1);
-        Due.due("21 no firing 300", y.fired(300), -1);
-        Due.due("19 by firing 299", y.consumer(299), 299);
-        Due.due("20 and answered", y.answer(299), 6);
-        Due.due("9 beyond 300 still", y.put(0, 6), -1);
     }
 
     private static void withdrawing() {
@@ -89,9 +17,6 @@ public final class MessagesTest {
         x.call(3, 3);
         Due.due("11 on a PLAIN channel", x.withdraw(0), false);
         Due.due("11 no message 3", x.withdraw(3), false);
-        for (int bad : NO_MESSAGES) {
-            Due.due("11 no message " + bad, x.withdraw(bad), false);
-        }
         Due.due("18 all are PENDING", x.state(0) * 100 + x.state(1) * 10 + x.state(2), 111);
         Due.due("11 a call", x.withdraw(2), true);
         Due.due("18 it is WITHDRAWN", x.state(2), 3);
@@ -145,26 +70,6 @@ public final class MessagesTest {
         x.react(1);
         Due.due("16 behind the taken one", x.pendingAt(0, 1), 3);
         Due.due("16 no third now", x.pendingAt(0, 2), -1);
-        for (int bad : new int[] {-1, 6, 7, Integer.MIN_VALUE, Integer.MAX_VALUE}) {
-            Due.due("16 no k " + bad, x.pendingAt(0, bad), -1);
-            Due.due("16 no channel " + bad, x.pendingAt(bad, 0), -1);
-        }
-        Due.due("16 no channel 4", x.pendingAt(4, 0), -1);
-        Due.due("16 not sealed", Vessels.withParts(1).pendingAt(0, 0), -1);
-    }
-
-    private static void valuesStay() {
-        JoinVessel x = Vessels.sealed();
-        x.put(0, Integer.MIN_VALUE);
-        x.call(2, Integer.MAX_VALUE);
-        x.call(3, -1);
-        for (int turn = 0; turn < 2; turn++) {
-            Due.due("17 least", x.value(0), Integer.MIN_VALUE);
-            Due.due("17 greatest", x.value(1), Integer.MAX_VALUE);
-            Due.due("17 below 0", x.value(2), -1);
-            x.react(5);
-            x.withdraw(2);
-        }
     }
 
     private static void states() {
@@ -211,17 +116,5 @@ public final class MessagesTest {
         x.react(1);
         Due.due("20 the second", x.answer(1), 13);
         Due.due("20 the first still", x.answer(0), -12);
-    }
-
-    private static void noSuchMessage() {
-        JoinVessel x = Vessels.sealed();
-        x.call(2, 3);
-        x.react(1);
-        for (int bad : new int[] {-1, 1, 299, 300, Integer.MIN_VALUE, Integer.MAX_VALUE}) {
-            Due.due("17 no message " + bad, x.value(bad), 0);
-            Due.due("18 no message " + bad, x.state(bad), 0);
-            Due.due("19 no message " + bad, x.consumer(bad), -1);
-            Due.due("20 no message " + bad, x.answer(bad), 0);
-        }
     }
 }

@@ -1,12 +1,12 @@
 /** Promises 1, 3, 5 and 8: a new object, a new reaction, the guard that stands, and a vessel that is sealed. */
 public final class BuildingTest {
     public static void main(String[] args) {
-        aNewObject();
-        objectsAreApart();
-        aNewReaction();
-        guardIsReplaced();
-        sealedIsForEver();
-        Due.end();
+        Due.run(
+                BuildingTest::aNewObject,
+                BuildingTest::objectsAreApart,
+                BuildingTest::aNewReaction,
+                BuildingTest::guardIsReplaced,
+                BuildingTest::sealedIsForEver);
     }
 
     private static void aNewObject() {
@@ -35,6 +35,7 @@ public final class BuildingTest {
     }
 
     private static void objectsAreApart() {
+        Due.sentence("Promise 1: An open vessel without channels and reactions.");
         JoinVessel x = Vessels.sealed();
         x.put(0, 7);
         x.react(1);

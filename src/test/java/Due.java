@@ -35,6 +35,19 @@ final class Due {
         System.out.println(sentence + what + ": answered " + got + ", due is " + want);
     }
 
+    /** Runs the tests one by one: one that throws is told, and the others still run. */
+    static void run(Runnable... tests) {
+        for (Runnable test : tests) {
+            sentence = "";
+            try {
+                test.run();
+            } catch (RuntimeException e) {
+                tell("a call", "with " + e, "no exception");
+            }
+        }
+        end();
+    }
+
     static void end() {
         System.out.println(asked + " answers, " + wrong + " not as due");
         if (wrong != 0) {

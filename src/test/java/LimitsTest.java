@@ -3,36 +3,40 @@
  * messages and PENDING messages, and ROOM, each under the words of the document that name it.
  */
 public final class LimitsTest {
+    private static final String RUN = "An object is used for at most 512 calls after it has been made";
     private static final int CALLS = 512;
+    private static final String MADE = "MESSAGES are numbered 0, 1, .. as they are made, at most 300 in all";
+    private static final String FULL = "A channel has at most 6 PENDING messages.";
+    private static final String ROOM = "its firing would leave no channel with more than 6 PENDING messages";
 
     public static void main(String[] args) {
-        runOf300Firings();
-        runOfReactions();
-        runOfWithdrawals();
-        runOfTheDearestCalls();
-        callsBehindTheLast();
-        channels();
-        channelsOfBothKinds();
-        reactions();
-        parts();
-        actions();
-        actionsInOrder();
-        sameChannelForSeveralParts();
-        messagesPut();
-        messagesSent();
-        messagesKeepTheirNumbers();
-        valuesNeverChange();
-        statesAreForEver();
-        pendingOnAChannel("put", false);
-        pendingOnAChannel("call", true);
-        pendingThatWereSent();
-        oneAnswer();
-        roomOnTheChannels();
-        roomOnEveryChannel();
-        roomForMessages();
-        roomAndAMatch();
-        notSealed();
-        Due.end();
+        Due.run(
+                LimitsTest::runOf300Firings,
+                LimitsTest::runOfReactions,
+                LimitsTest::runOfWithdrawals,
+                LimitsTest::runOfTheDearestCalls,
+                LimitsTest::callsBehindTheLast,
+                LimitsTest::channels,
+                LimitsTest::channelsOfBothKinds,
+                LimitsTest::reactions,
+                LimitsTest::parts,
+                LimitsTest::actions,
+                LimitsTest::actionsInOrder,
+                LimitsTest::sameChannelForSeveralParts,
+                LimitsTest::messagesPut,
+                LimitsTest::messagesSent,
+                LimitsTest::messagesKeepTheirNumbers,
+                LimitsTest::valuesNeverChange,
+                LimitsTest::statesAreForEver,
+                () -> pendingOnAChannel("put", false),
+                () -> pendingOnAChannel("call", true),
+                LimitsTest::pendingThatWereSent,
+                LimitsTest::oneAnswer,
+                LimitsTest::roomOnTheChannels,
+                LimitsTest::roomOnEveryChannel,
+                LimitsTest::roomForMessages,
+                LimitsTest::roomAndAMatch,
+                LimitsTest::notSealed);
     }
 
     // ---- calls ----
@@ -48,7 +52,7 @@ public final class LimitsTest {
     }
 
     private static void runOf300Firings() {
-        Due.sentence("An object is used for at most 512 calls after it has been made");
+        Due.sentence(RUN);
         JoinVessel x = taker();
         int calls = 4;
         for (int m = 0; m < 300; m++) {
@@ -70,6 +74,7 @@ public final class LimitsTest {
     }
 
     private static void runOfReactions() {
+        Due.sentence(RUN);
         JoinVessel x = new JoinVessel();
         x.channel(false);
         x.reaction();
@@ -88,6 +93,7 @@ public final class LimitsTest {
     }
 
     private static void runOfWithdrawals() {
+        Due.sentence(RUN);
         JoinVessel x = new JoinVessel();
         x.channel(true);
         x.reaction();
@@ -105,6 +111,7 @@ public final class LimitsTest {
 
     /** Full channels, eight reactions of four parts each, and guards of which none holds in the end. */
     private static void runOfTheDearestCalls() {
+        Due.sentence(RUN);
         JoinVessel x = new JoinVessel();
         int calls = 0;
         for (int c = 0; c < 4; c++) {
@@ -134,6 +141,7 @@ public final class LimitsTest {
 
     /** What they answer is free, but none of them may throw or fail to end. */
     private static void callsBehindTheLast() {
+        Due.sentence("what later calls answer is free");
         JoinVessel x = taker();
         int[] numbers = {0, 1, 5, 299, 300, 511, 512, 513, -1, Integer.MIN_VALUE, Integer.MAX_VALUE};
         for (int i = 0; i < 4000; i++) {
@@ -298,7 +306,7 @@ public final class LimitsTest {
     // ---- messages ----
 
     private static void messagesPut() {
-        Due.sentence("MESSAGES are numbered 0, 1, .. as they are made, at most 300 in all");
+        Due.sentence(MADE);
         JoinVessel x = Vessels.sealed();
         Vessels.makeMessages(x, 298);
         Due.due("number 298", x.put(0, 1), 298);
@@ -315,6 +323,7 @@ public final class LimitsTest {
     }
 
     private static void messagesSent() {
+        Due.sentence(MADE);
         JoinVessel x = Vessels.withParts(1);
         for (int a = 0; a < 4; a++) {
             x.emit(0, 1, 0, 0, a);
@@ -333,6 +342,7 @@ public final class LimitsTest {
     }
 
     private static void messagesKeepTheirNumbers() {
+        Due.sentence(MADE);
         JoinVessel x = Vessels.sealed();
         Due.due("number 0", x.call(2, 0), 0);
         x.withdraw(0);
@@ -389,7 +399,7 @@ public final class LimitsTest {
     }
 
     private static void pendingOnAChannel(String call, boolean answered) {
-        Due.sentence("A channel has at most 6 PENDING messages.");
+        Due.sentence(FULL);
         JoinVessel x = Vessels.sealed();
         int channel = answered ? 2 : 0;
         for (int m = 0; m < 6; m++) {
@@ -411,6 +421,7 @@ public final class LimitsTest {
     }
 
     private static void pendingThatWereSent() {
+        Due.sentence(FULL);
         JoinVessel x = Vessels.withParts(1);
         for (int a = 0; a < 4; a++) {
             x.emit(0, 1, 0, 0, a);
@@ -443,7 +454,7 @@ public final class LimitsTest {
     // ---- room ----
 
     private static void roomOnTheChannels() {
-        Due.sentence("its firing would leave no channel with more than 6 PENDING messages");
+        Due.sentence(ROOM);
         for (int pending = 0; pending <= 6; pending++) {
             for (int parts = 0; parts <= 3; parts++) {
                 for (int sends = 0; sends <= 4; sends++) {
@@ -480,6 +491,7 @@ public final class LimitsTest {
     }
 
     private static void roomOnEveryChannel() {
+        Due.sentence(ROOM);
         for (int full = 0; full < 8; full++) {
             JoinVessel x = new JoinVessel();
             for (int c = 0; c < 8; c++) {

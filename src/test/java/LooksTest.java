@@ -3,26 +3,29 @@
  * below 0, just too large, the least and the greatest int.
  */
 public final class LooksTest {
+    private static final String NO_PART = "Promise 15: or the next reaction has no such part";
     private static final int LEAST = Integer.MIN_VALUE;
     private static final int MOST = Integer.MAX_VALUE;
     /** Numbers that are wrong everywhere, some of them right if all but the lowest bits were dropped. */
     private static final int[] WILD = {LEAST, LEAST + 1, -300, -256, -2, -1, 300, 301, 511, 512, 65536, 1 << 30, MOST};
 
     public static void main(String[] args) {
-        howManyFire();
-        setsOfReactions();
-        noneEnabled();
-        takenByParts();
-        takenByTheNextReaction();
-        pendingByNumber();
-        pendingOnNoChannel();
-        noSuchMessage();
-        valueOfEveryMessage();
-        statesOfMessages();
-        noConsumer();
-        noAnswer();
-        noSuchFiring();
-        Due.end();
+        Due.run(
+                LooksTest::howManyFire,
+                LooksTest::setsOfReactions,
+                LooksTest::noneEnabled,
+                LooksTest::takenByParts,
+                LooksTest::takenByTheNextReaction,
+                LooksTest::pendingByNumber,
+                LooksTest::pendingInOrder,
+                LooksTest::pendingOnNoChannel,
+                LooksTest::noSuchMessage,
+                LooksTest::noMessageBehindTheLast,
+                LooksTest::valueOfEveryMessage,
+                LooksTest::statesOfMessages,
+                LooksTest::noConsumer,
+                LooksTest::noAnswer,
+                LooksTest::noSuchFiring);
     }
 
     // ---- promise 12 ----
@@ -60,8 +63,8 @@ public final class LooksTest {
     // ---- promises 13 and 14 ----
 
     private static void setsOfReactions() {
-        Due.sentence("Promise 13: A set of reactions, those that are enabled: the sum of 2 to the power of r over all of"
-                + " them.");
+        Due.sentence("Promise 13: A set of reactions, those that are enabled: the sum of 2 to the power of r over all"
+                + " of them.");
         for (int set = 0; set < 256; set++) {
             JoinVessel x = new JoinVessel();
             x.channel(false);
@@ -122,7 +125,7 @@ public final class LooksTest {
     // ---- promise 15 ----
 
     private static void takenByParts() {
-        Due.sentence("Promise 15: or the next reaction has no such part");
+        Due.sentence(NO_PART);
         for (int parts = 1; parts <= 4; parts++) {
             JoinVessel x = Vessels.withParts(parts);
             x.seal();
@@ -141,6 +144,7 @@ public final class LooksTest {
     }
 
     private static void takenByTheNextReaction() {
+        Due.sentence(NO_PART);
         JoinVessel x = Vessels.withParts(3);
         x.reaction();
         x.part(1, 1, 0, 0);
@@ -179,6 +183,9 @@ public final class LooksTest {
                 }
             }
         }
+    }
+
+    private static void pendingInOrder() {
         Due.sentence("Promise 16: 0 the one with the least number");
         JoinVessel x = Vessels.sealed();
         for (int m = 0; m < 6; m++) {
@@ -245,6 +252,9 @@ public final class LooksTest {
         }
         dueNoMessage("one message", x, 1);
         dueNoMessage("one message", x, 299);
+    }
+
+    private static void noMessageBehindTheLast() {
         JoinVessel full = Vessels.sealed();
         Vessels.makeMessages(full, 299);
         dueNoMessage("299 messages", full, 299);

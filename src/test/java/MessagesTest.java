@@ -1,13 +1,13 @@
 /** Promises 9 to 11 and 16 to 20, in ordinary use: messages made, withdrawn and taken, and what is seen of them. */
 public final class MessagesTest {
     public static void main(String[] args) {
-        withdrawing();
-        withdrawnIsNotTaken();
-        pendingInOrder();
-        states();
-        consumers();
-        answers();
-        Due.end();
+        Due.run(
+                MessagesTest::withdrawing,
+                MessagesTest::withdrawnIsNotTaken,
+                MessagesTest::pendingInOrder,
+                MessagesTest::states,
+                MessagesTest::consumers,
+                MessagesTest::answers);
     }
 
     private static void withdrawing() {

@@ -3,30 +3,34 @@
  * reaction that FIRES does, each under the words of the document that name it.
  */
 public final class OrderTest {
+    private static final String ROW = "a row of different PENDING messages";
+    private static final String BEHIND =
+            "with the one behind that which fired last, goes on to the highest number, and then from 0 on";
+
     public static void main(String[] args) {
-        differentMessages();
-        pendingMessages();
-        messagesOnThePartsChannel();
-        valuesThatPass();
-        valuesOfWhichTheGuardHolds();
-        leastForPart0();
-        leastForPart1();
-        leastForTheOtherParts();
-        nextBeforeAnyFired();
-        nextBehindTheLast();
-        nextOfOneReaction();
-        nextIsNotMovedByOthers();
-        firingConsumes();
-        firingSends();
-        firingTakesBeforeItSends();
-        firingAnswers();
-        Due.end();
+        Due.run(
+                OrderTest::differentMessages,
+                OrderTest::pendingMessages,
+                OrderTest::messagesOnThePartsChannel,
+                OrderTest::valuesThatPass,
+                OrderTest::valuesOfWhichTheGuardHolds,
+                OrderTest::leastForPart0,
+                OrderTest::leastForPart1,
+                OrderTest::leastForTheOtherParts,
+                OrderTest::nextBeforeAnyFired,
+                OrderTest::nextBehindTheLast,
+                OrderTest::nextOfOneReaction,
+                OrderTest::nextIsNotMovedByOthers,
+                OrderTest::firingConsumes,
+                OrderTest::firingSends,
+                OrderTest::firingTakesBeforeItSends,
+                OrderTest::firingAnswers);
     }
 
     // ---- matches ----
 
     private static void differentMessages() {
-        Due.sentence("a row of different PENDING messages");
+        Due.sentence(ROW);
         for (int parts = 1; parts <= 4; parts++) {
             for (int kind = 0; kind <= 2; kind += 2) {
                 JoinVessel x = Vessels.withParts(parts);
@@ -61,6 +65,7 @@ public final class OrderTest {
     }
 
     private static void pendingMessages() {
+        Due.sentence(ROW);
         JoinVessel x = Vessels.sealed();
         x.call(2, 1);
         x.call(2, 2);
@@ -262,7 +267,7 @@ public final class OrderTest {
     }
 
     private static void nextBehindTheLast() {
-        Due.sentence("with the one behind that which fired last, goes on to the highest number, and then from 0 on");
+        Due.sentence(BEHIND);
         for (int count = 2; count <= 8; count += 3) {
             for (int last = 0; last < count; last++) {
                 for (int set = 0; set < 1 << count; set++) {
@@ -282,6 +287,7 @@ public final class OrderTest {
     }
 
     private static void nextOfOneReaction() {
+        Due.sentence(BEHIND);
         JoinVessel x = row(1);
         Due.due("one reaction, nothing enabled", x.next(), -1);
         for (int k = 0; k < 3; k++) {
@@ -294,6 +300,7 @@ public final class OrderTest {
 
     /** Only a firing moves the place where the order begins. */
     private static void nextIsNotMovedByOthers() {
+        Due.sentence(BEHIND);
         JoinVessel x = row(3);
         enable(x, 7);
         x.react(1);
@@ -356,6 +363,7 @@ public final class OrderTest {
     }
 
     private static void firingTakesBeforeItSends() {
+        Due.sentence("then, in the order of the actions");
         JoinVessel x = Vessels.withParts(2);
         x.emit(0, 0, 1, 0, 100);
         x.emit(0, 0, 1, 1, 200);

@@ -1,14 +1,14 @@
 /** Promises 12 to 15 and 21, in ordinary use: reactions that fire by turns, and that wait for room. */
 public final class ReactingTest {
     public static void main(String[] args) {
-        theExampleOfTheReadme();
-        nextGoesRound();
-        roomOnChannels();
-        roomAfterTaking();
-        fullChannelsThatNothingIsSentTo();
-        roomForMessages();
-        firings();
-        Due.end();
+        Due.run(
+                ReactingTest::theExampleOfTheReadme,
+                ReactingTest::nextGoesRound,
+                ReactingTest::roomOnChannels,
+                ReactingTest::roomAfterTaking,
+                ReactingTest::fullChannelsThatNothingIsSentTo,
+                ReactingTest::roomForMessages,
+                ReactingTest::firings);
     }
 
     private static void theExampleOfTheReadme() {

@@ -11,38 +11,46 @@ public final class RefusalsTest {
     private static final int[] WILD = {LEAST, LEAST + 1, -256, -8, -2, -1, 7, 8, 16, 32, 256, 65536, 1 << 30, MOST};
 
     public static void main(String[] args) {
-        channel();
-        reaction();
-        partWhenSealed();
-        partOfNoReaction();
-        partOnNoChannel();
-        partWithNoTest();
-        partBeyondFour();
-        guard();
-        guardWithNoKind();
-        emitWhenSealed();
-        emitOfNoReaction();
-        emitToNoPlainChannel();
-        emitWithNoKind();
-        emitWithNoPart();
-        emitBeyondFour();
-        replyWhenSealed();
-        replyOfNoReaction();
-        replyToNoPart();
-        replyOnAPlainChannel();
-        replyToAnAnsweredPart();
-        replyWithNoKind();
-        replyWithNoPart();
-        replyBeyondFour();
-        put();
-        putWhenFull();
-        call();
-        callWhenFull();
-        madeAll();
-        withdraw();
-        withdrawNotPending();
-        react();
-        Due.end();
+        Due.run(
+                RefusalsTest::channelWhenSealed,
+                RefusalsTest::channelBeyondEight,
+                RefusalsTest::reactionWhenSealed,
+                RefusalsTest::reactionBeyondEight,
+                RefusalsTest::partWhenSealed,
+                RefusalsTest::partOfNoReaction,
+                RefusalsTest::partOnNoChannel,
+                RefusalsTest::partWithNoTest,
+                RefusalsTest::partBeyondFour,
+                RefusalsTest::guardWhenSealed,
+                RefusalsTest::guardOfNoReaction,
+                RefusalsTest::guardWithNoKind,
+                RefusalsTest::emitWhenSealed,
+                RefusalsTest::emitOfNoReaction,
+                RefusalsTest::emitToNoPlainChannel,
+                RefusalsTest::emitWithNoKind,
+                RefusalsTest::emitWithNoPart,
+                RefusalsTest::emitBeyondFour,
+                RefusalsTest::replyWhenSealed,
+                RefusalsTest::replyOfNoReaction,
+                RefusalsTest::replyToNoPart,
+                RefusalsTest::replyOnAPlainChannel,
+                RefusalsTest::replyToAnAnsweredPart,
+                RefusalsTest::replyWithNoKind,
+                RefusalsTest::replyWithNoPart,
+                RefusalsTest::replyBeyondFour,
+                RefusalsTest::putWhenNotSealed,
+                RefusalsTest::putOnNoPlainChannel,
+                RefusalsTest::putWhenFull,
+                RefusalsTest::callWhenNotSealed,
+                RefusalsTest::callOnNoAnsweredChannel,
+                RefusalsTest::callWhenFull,
+                RefusalsTest::putBeyond300,
+                RefusalsTest::callBeyond300,
+                RefusalsTest::withdrawOfNoCall,
+                RefusalsTest::withdrawNotPending,
+                RefusalsTest::reactWhenNotSealed,
+                RefusalsTest::reactTooOften,
+                RefusalsTest::refusedCallsAmongOthers);
     }
 
     // ---- vessels ----
@@ -106,11 +114,14 @@ public final class RefusalsTest {
 
     // ---- promises 2 and 3 ----
 
-    private static void channel() {
+    private static void channelWhenSealed() {
         Due.sentence("Promise 2: NONE, refused, when the vessel is sealed");
         Twins.refused("PLAIN", RefusalsTest::buildAndSeal, x -> x.channel(false));
         Twins.refused("ANSWERED", RefusalsTest::buildAndSeal, x -> x.channel(true));
         Due.due("not sealed", built().channel(false), 4);
+    }
+
+    private static void channelBeyondEight() {
         Due.sentence("Promise 2: or 8 channels are there");
         for (int count = 4; count <= 8; count++) {
             JoinVessel x = built();
@@ -129,10 +140,13 @@ public final class RefusalsTest {
         Twins.refused("ANSWERED", eight, x -> x.channel(true));
     }
 
-    private static void reaction() {
+    private static void reactionWhenSealed() {
         Due.sentence("Promise 3: NONE, refused, when the vessel is sealed");
         Twins.refused("reaction", RefusalsTest::buildAndSeal, x -> x.reaction());
         Due.due("not sealed", built().reaction(), 3);
+    }
+
+    private static void reactionBeyondEight() {
         Due.sentence("Promise 3: or 8 reactions are there");
         for (int count = 3; count <= 8; count++) {
             JoinVessel x = built();
@@ -208,13 +222,16 @@ public final class RefusalsTest {
 
     // ---- promise 5 ----
 
-    private static void guard() {
+    private static void guardWhenSealed() {
         Due.sentence("Promise 5: false, refused, when the vessel is sealed");
         for (int kind = 0; kind <= 5; kind++) {
             int of = kind;
             Twins.denied("kind " + kind, RefusalsTest::buildAndSeal, x -> x.guard(0, of, -5));
             Due.due("not sealed, kind " + kind, built().guard(0, kind, -5), true);
         }
+    }
+
+    private static void guardOfNoReaction() {
         Due.sentence("Promise 5: r is no reaction");
         for (int bad : outside(3)) {
             Twins.denied("r " + bad, RefusalsTest::build, x -> x.guard(bad, 2, 0));
@@ -333,6 +350,15 @@ public final class RefusalsTest {
         for (int bad : outside(1)) {
             Twins.denied("part " + bad, RefusalsTest::build, x -> x.reply(2, bad, 0, 0, 9));
         }
+        // With no PLAIN channel there is no other reason than that the part is not there.
+        Consumer<JoinVessel> answered = x -> {
+            x.channel(true);
+            x.reaction();
+            x.part(0, 0, 0, 0);
+        };
+        for (int bad : outside(1)) {
+            Twins.denied("all ANSWERED, part " + bad, answered, x -> x.reply(0, bad, 0, 0, 9));
+        }
         JoinVessel x = Vessels.withChannels();
         x.reaction();
         for (int part = 0; part < 4; part++) {
@@ -417,11 +443,14 @@ public final class RefusalsTest {
 
     // ---- promises 9 and 10 ----
 
-    private static void put() {
+    private static void putWhenNotSealed() {
         Due.sentence("Promise 9: NONE, refused, when the vessel is not sealed");
         Twins.refused("channel 0", RefusalsTest::build, x -> x.put(0, 5));
         Twins.refused("channel 1", RefusalsTest::build, x -> x.put(1, 5));
         Due.due("sealed", builtAndSealed().put(1, 5), 0);
+    }
+
+    private static void putOnNoPlainChannel() {
         Due.sentence("Promise 9: channel is not a PLAIN channel");
         for (int bad : outside(4)) {
             Twins.refused("no channel " + bad, RefusalsTest::buildAndSeal, x -> x.put(bad, 5));
@@ -444,11 +473,14 @@ public final class RefusalsTest {
         Due.due("another channel", x.put(1, 9), 6);
     }
 
-    private static void call() {
+    private static void callWhenNotSealed() {
         Due.sentence("Promise 10: NONE, refused, when the vessel is not sealed");
         Twins.refused("channel 2", RefusalsTest::build, x -> x.call(2, 5));
         Twins.refused("channel 3", RefusalsTest::build, x -> x.call(3, 5));
         Due.due("sealed", builtAndSealed().call(3, 5), 0);
+    }
+
+    private static void callOnNoAnsweredChannel() {
         Due.sentence("Promise 10: channel is not an ANSWERED channel");
         for (int bad : outside(4)) {
             Twins.refused("no channel " + bad, RefusalsTest::buildAndSeal, x -> x.call(bad, 5));
@@ -488,7 +520,7 @@ public final class RefusalsTest {
         };
     }
 
-    private static void madeAll() {
+    private static void putBeyond300() {
         Due.sentence("Promise 9: or 300 messages were made");
         Twins.refusedLate("channel 0", made(300), x -> x.put(0, 5));
         Twins.refusedLate("channel 1", made(300), x -> x.put(1, 5));
@@ -496,13 +528,16 @@ public final class RefusalsTest {
         made(299).accept(x);
         Due.due("299 were made", x.put(0, 5), 299);
         Due.due("300 were made", x.put(0, 5), -1);
+    }
+
+    private static void callBeyond300() {
         Due.sentence("Promise 10: or 300 messages were made");
-        Twins.refusedLate("channel 2", made(300), y -> y.call(2, 5));
-        Twins.refusedLate("channel 3", made(300), y -> y.call(3, 5));
-        JoinVessel y = new JoinVessel();
-        made(299).accept(y);
-        Due.due("299 were made", y.call(2, 5), 299);
-        Due.due("300 were made", y.call(2, 5), -1);
+        Twins.refusedLate("channel 2", made(300), x -> x.call(2, 5));
+        Twins.refusedLate("channel 3", made(300), x -> x.call(3, 5));
+        JoinVessel x = new JoinVessel();
+        made(299).accept(x);
+        Due.due("299 were made", x.call(2, 5), 299);
+        Due.due("300 were made", x.call(2, 5), -1);
     }
 
     // ---- promise 11 ----
@@ -518,7 +553,7 @@ public final class RefusalsTest {
         x.withdraw(3);
     }
 
-    private static void withdraw() {
+    private static void withdrawOfNoCall() {
         Due.sentence("Promise 11: false, refused, when m is no call (no message, or one on a PLAIN channel)");
         for (int bad : outside(4)) {
             Twins.denied("no message " + bad, RefusalsTest::buildAndSend, x -> x.withdraw(bad));
@@ -549,13 +584,16 @@ public final class RefusalsTest {
 
     // ---- promise 12 ----
 
-    private static void react() {
+    private static void reactWhenNotSealed() {
         Due.sentence("Promise 12: NONE, refused, when the vessel is not sealed");
         for (int n = 0; n <= 5; n++) {
             int times = n;
             Twins.refused("n " + n, RefusalsTest::build, x -> x.react(times));
             Due.due("a new object, n " + n, new JoinVessel().react(n), -1);
         }
+    }
+
+    private static void reactTooOften() {
         Due.sentence("Promise 12: or n is not 0 .. 5");
         Consumer<JoinVessel> ready = x -> {
             buildAndSeal(x);
@@ -571,5 +609,71 @@ public final class RefusalsTest {
             ready.accept(x);
             Due.due("n " + n, x.react(n), n);
         }
+    }
+
+    // ---- all of them ----
+
+    private static void dueRefused(int[] numbers, boolean[] truths) {
+        for (int i = 0; i < numbers.length; i++) {
+            Due.due("number " + i, numbers[i], -1);
+        }
+        for (int i = 0; i < truths.length; i++) {
+            Due.due("truth " + i, truths[i], false);
+        }
+    }
+
+    private static void refuse(JoinVessel x) {
+        int[] numbers = {
+            x.part(-1, 0, 0, 0), x.part(0, 4, 0, 0), x.part(0, 0, 5, 0), x.put(2, 9), x.put(-1, 9), x.call(0, 9),
+            x.call(4, 9), x.react(-1), x.react(6),
+        };
+        boolean[] truths = {
+            x.guard(0, 6, 0), x.emit(0, 2, 0, 0, 0), x.emit(0, 1, 5, 0, 0), x.emit(0, 1, 1, 4, 0),
+            x.reply(0, 0, 0, 0, 0), x.reply(0, 1, 5, 0, 0), x.withdraw(-1), x.withdraw(300),
+        };
+        dueRefused(numbers, truths);
+    }
+
+    private static void refuseWhenOpen(JoinVessel x) {
+        refuse(x);
+        Due.due("seal", x.seal(), 4);
+        dueRefused(new int[] {x.put(0, 9), x.call(2, 9), x.react(5)}, new boolean[] {});
+    }
+
+    private static void refuseWhenSealed(JoinVessel x) {
+        refuse(x);
+        Due.due("seal", x.seal(), 1);
+        int[] numbers = {x.channel(true), x.reaction(), x.part(0, 0, 0, 0)};
+        boolean[] truths = {x.guard(0, 0, 0), x.emit(0, 1, 0, 0, 0)};
+        dueRefused(numbers, truths);
+    }
+
+    /** What a vessel answers in the course of its life; calls that are refused come between, if they are wanted. */
+    private static String life(boolean withRefused) {
+        JoinVessel x = new JoinVessel();
+        Consumer<JoinVessel> whenOpen = withRefused ? RefusalsTest::refuseWhenOpen : y -> { };
+        Consumer<JoinVessel> whenSealed = withRefused ? RefusalsTest::refuseWhenSealed : y -> { };
+        build(x);
+        whenOpen.accept(x);
+        x.part(1, 2, 0, 0);
+        whenOpen.accept(x);
+        x.reply(1, 1, 2, 0, 3);
+        x.reply(2, 0, 3, 0, 5);
+        x.seal();
+        StringBuilder text = new StringBuilder();
+        for (int i = 0; i < 9; i++) {
+            whenSealed.accept(x);
+            int called = x.call(2 + i % 2, 10 - i);
+            text.append(x.put(i % 2, i)).append(' ').append(called).append(' ');
+            text.append(x.withdraw(i % 3 == 2 ? called : 0)).append(' ').append(x.react(i % 4)).append(' ');
+        }
+        whenSealed.accept(x);
+        text.append(Vessels.seen(x));
+        return text.toString();
+    }
+
+    private static void refusedCallsAmongOthers() {
+        Due.sentence("A call that is refused changes nothing.");
+        Due.due("with refused calls among the others", life(true), life(false));
     }
 }

@@ -2,16 +2,19 @@ import java.util.function.Consumer;
 
 /** Promise 8: each of the numbers that seal answers, and which of several comes first. */
 public final class SealTest {
+    private static final String NO_ANSWER = "Promise 8: 4 a part of a reaction has an ANSWERED channel, and no action"
+            + " of that reaction answers it";
+
     public static void main(String[] args) {
-        sealedAlready();
-        noReaction();
-        noPart();
-        noAnswer();
-        answersThatDoNotCount();
-        noPartComesBeforeNoAnswer();
-        nothingChanges();
-        sealed();
-        Due.end();
+        Due.run(
+                SealTest::sealedAlready,
+                SealTest::noReaction,
+                SealTest::noPart,
+                SealTest::noAnswer,
+                SealTest::answersThatDoNotCount,
+                SealTest::noPartComesBeforeNoAnswer,
+                SealTest::nothingChanges,
+                SealTest::sealed);
     }
 
     /** Channel 0 is PLAIN, channel 1 ANSWERED; so many reactions, each with a part on channel 0. */
@@ -77,7 +80,7 @@ public final class SealTest {
     }
 
     private static void noAnswer() {
-        Due.sentence("Promise 8: 4 a part of a reaction has an ANSWERED channel, and no action of that reaction answers it");
+        Due.sentence(NO_ANSWER);
         for (int r = 0; r < 8; r++) {
             for (int part = 0; part < 4; part++) {
                 JoinVessel x = new JoinVessel();
@@ -101,6 +104,7 @@ public final class SealTest {
     }
 
     private static void answersThatDoNotCount() {
+        Due.sentence(NO_ANSWER);
         JoinVessel x = built(2);
         x.part(0, 1, 0, 0);
         x.part(1, 1, 0, 0);

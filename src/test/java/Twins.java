@@ -4,8 +4,8 @@ import java.util.function.Predicate;
 import java.util.function.ToIntFunction;
 
 /**
- * "A call that is refused changes nothing.": of two vessels built alike, one gets the call that is to be
- * refused; then both must answer alike to a long row of calls that lays open what is inside.
+ * For "A call that is refused changes nothing.": of two vessels built alike, one gets the call that is to
+ * be refused; then both must answer alike to a long row of calls that lays open what is inside.
  */
 final class Twins {
     private Twins() {
@@ -40,7 +40,7 @@ final class Twins {
         before.accept(with);
         before.accept(without);
         Due.due(what, call.applyAsInt(with), answer);
-        Due.due(what + ", and changes nothing", after.apply(with), after.apply(without));
+        Due.due(what + " (A call that is refused changes nothing.)", after.apply(with), after.apply(without));
     }
 
     /** Tries to fill every reaction, which tells how many channels, reactions, parts and actions there were. */

@@ -8,28 +8,28 @@ public final class ValuesTest {
     private static final int[] EDGES = {LEAST, LEAST + 1, -256, -2, -1, 0, 1, 2, 3, 255, 256, 1 << 30, MOST - 1, MOST};
 
     public static void main(String[] args) {
-        testAlways();
-        testEqual();
-        testLess();
-        testNotLess();
-        testBitInCommon();
-        guardAlways();
-        guardRising();
-        guardAllEqual();
-        guardNoTwoEqual();
-        guardSumAtMost();
-        guardSumDivided();
-        guardSumsDoNotWrap();
-        guardAtFirst();
-        expressionNumber();
-        expressionPlus();
-        expressionTimes();
-        expressionSum();
-        expressionGreatest();
-        expressionsWrap();
-        expressionsThatLookAtNoPart();
-        expressionsOfPartsThatCameLater();
-        Due.end();
+        Due.run(
+                ValuesTest::testAlways,
+                ValuesTest::testEqual,
+                ValuesTest::testLess,
+                ValuesTest::testNotLess,
+                ValuesTest::testBitInCommon,
+                ValuesTest::guardAlways,
+                ValuesTest::guardRising,
+                ValuesTest::guardAllEqual,
+                ValuesTest::guardNoTwoEqual,
+                ValuesTest::guardSumAtMost,
+                ValuesTest::guardSumDivided,
+                ValuesTest::guardSumsDoNotWrap,
+                ValuesTest::guardAtFirst,
+                ValuesTest::expressionNumber,
+                ValuesTest::expressionPlus,
+                ValuesTest::expressionTimes,
+                ValuesTest::expressionSum,
+                ValuesTest::expressionGreatest,
+                ValuesTest::expressionsWrap,
+                ValuesTest::expressionsThatLookAtNoPart,
+                ValuesTest::expressionsOfPartsThatCameLater);
     }
 
     // ---- tests ----

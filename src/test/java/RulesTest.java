@@ -33,7 +33,10 @@ public final class RulesTest {
         for (Class<?> inside : JoinVessel.class.getDeclaredClasses()) {
             insideClass(inside);
         }
-        text();
+        Due.due("rule 11: classes", JoinVessel.class.getDeclaredClasses().length < 12, true);
+        String text = Files.readString(Path.of("src/main/java/JoinVessel.java"));
+        words(text.replaceAll("(?s)/\\*.*?\\*/", "").replaceAll("//[^\n]*", ""));
+        lengths(text);
         Due.end();
     }
 
@@ -89,9 +92,7 @@ public final class RulesTest {
         noOtherMembers(type);
     }
 
-    private static void text() throws IOException {
-        String text = Files.readString(Path.of("src/main/java/JoinVessel.java"));
-        String code = text.replaceAll("(?s)/\\*.*?\\*/", "").replaceAll("//[^\n]*", "");
+    private static void words(String code) {
         for (String word : FORBIDDEN) {
             String pattern = Character.isLetter(word.charAt(0)) ? "\\b" + word + "\\b" : Pattern.quote(word);
             Due.due("rules 2, 4, 6, 13: " + word, Pattern.compile(pattern).matcher(code).find(), false);
@@ -110,5 +111,16 @@ public final class RulesTest {
         Due.due("rule 12: objects made outside the constructors", made - madeInFields - 2, 0);
         Due.due("rule 12: the constructor's", code.contains("channels[c] = new Channel();")
                 && code.contains("reactions[r] = new Reaction();"), true);
+    }
+
+    private static void lengths(String text) {
+        Matcher method = Pattern.compile("(?ms)^( +)(public|private) [^\n;=]*\\) \\{\n.*?^\\1\\}").matcher(text);
+        int methods = 0;
+        while (method.find()) {
+            methods++;
+            String first = method.group().trim().split("\n")[0];
+            Due.due("rule 11: length of " + first, method.group().split("\n").length <= 60, true);
+        }
+        Due.due("rule 11: the methods of the face, and more, were found", methods > FACE.length, true);
     }
 }

@@ -27,6 +27,10 @@ public final class RulesTest {
         "equals", "hashCode", "toString", "Exact", "native", "volatile", "System.out", "Thread",
     };
 
+    /** Rules 3 and 4: the class needs nothing else of the library, not even all that they allow. */
+    private static final Set<String> KNOWN_TYPES =
+            Set.of("JoinVessel", "Channel", "Messages", "Match", "Reaction", "Math");
+
     public static void main(String[] args) throws IOException {
         face();
         noOtherMembers(JoinVessel.class);
@@ -35,7 +39,9 @@ public final class RulesTest {
         }
         Due.due("rule 11: classes", JoinVessel.class.getDeclaredClasses().length < 12, true);
         String text = Files.readString(Path.of("src/main/java/JoinVessel.java"));
-        words(text.replaceAll("(?s)/\\*.*?\\*/", "").replaceAll("//[^\n]*", ""));
+        String code = text.replaceAll("(?s)/\\*.*?\\*/", "").replaceAll("//[^\n]*", "");
+        words(code);
+        types(code);
         lengths(text);
         Due.end();
     }
@@ -111,6 +117,16 @@ public final class RulesTest {
         Due.due("rule 12: objects made outside the constructors", made - madeInFields - 2, 0);
         Due.due("rule 12: the constructor's", code.contains("channels[c] = new Channel();")
                 && code.contains("reactions[r] = new Reaction();"), true);
+    }
+
+    private static void types(String code) {
+        Matcher type = Pattern.compile("\\b[A-Z]\\w*[a-z]\\w*").matcher(code);
+        Set<String> found = new TreeSet<>();
+        while (type.find()) {
+            found.add(type.group());
+        }
+        Due.due("rules 3 and 4: types", found.toString(), new TreeSet<>(KNOWN_TYPES).toString());
+        Due.due("rules 3 and 4: full names", Pattern.compile("\\bjavax?\\s*\\.").matcher(code).find(), false);
     }
 
     private static void lengths(String text) {
